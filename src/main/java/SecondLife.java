@@ -302,7 +302,7 @@ public final class SecondLife {
             return refused(BAD_NUMBER);
         }
         ways.about(town, now, p);
-        return chances.fraction(chances.hopeFrom(ways.start, n), what);
+        return chances.fraction(chances.hopeNow(n), what);
     }
 
     public int hoping(int p, int n) {
@@ -578,7 +578,7 @@ public final class SecondLife {
     }
 
     private static int within(int value, int least, int most) {
-        return Math.max(least, Math.min(most, value));
+        return value < least ? least : value > most ? most : value;
     }
 
     /** What a text tells; nothing changes in it once it has been read, so images share it. */
@@ -844,13 +844,13 @@ public final class SecondLife {
 
         private int fault = 0;
         private int place = NONE;
-        private byte[] text = null;
+        private byte[] text = new byte[0];
         private int length = 0;
         private int begin = 0;
         private int stop = 0;
         private int kind = END;
         private int number = 0;
-        private Town told = null;
+        private Town told = new Town();
         private boolean lawOfWorth = false;
         private final int[] law = new int[MOST_BYTES];
         private int lawLength = 0;
@@ -1116,58 +1116,46 @@ public final class SecondLife {
         }
 
         private void next() {
-            begin = pastBlanks(stop);
+            begin = stop;
+            while (begin < length && isBlank(byteAt(begin))) {
+                begin++;
+            }
             if (begin >= length) {
-                begin = length;
-                stop = length;
+                stop = begin;
                 kind = END;
-            } else if (isLetter(byteAt(begin))) {
+                return;
+            }
+            stop = begin + 1;
+            int first = byteAt(begin);
+            if (isLetter(first)) {
                 kind = WORD;
-                stop = pastLetters(begin);
-            } else if (isDigit(byteAt(begin))) {
-                stop = pastDigits(begin);
-                kind = stop - begin > MOST_DIGITS ? NO_TOKEN : NUMBER;
-                number = numberAtHand();
+                while (stop < length && isLetter(byteAt(stop))) {
+                    stop++;
+                }
+            } else if (isDigit(first)) {
+                readDigits();
             } else {
-                stop = begin + 1;
-                kind = SIGNS.indexOf((char) byteAt(begin)) >= 0 ? SIGN : NO_TOKEN;
+                kind = SIGNS.indexOf((char) first) >= 0 ? SIGN : NO_TOKEN;
             }
         }
 
-        private int numberAtHand() {
-            int n = 0;
-            for (int i = begin; i < stop && i < begin + MOST_DIGITS; i++) {
-                n = n * 10 + byteAt(i) - '0';
+        private void readDigits() {
+            number = byteAt(begin) - '0';
+            while (stop < length && isDigit(byteAt(stop))) {
+                if (stop - begin < MOST_DIGITS) {
+                    number = number * 10 + byteAt(stop) - '0';
+                }
+                stop++;
             }
-            return n;
-        }
-
-        private int pastBlanks(int from) {
-            int at = from;
-            while (at < length && (byteAt(at) == 10 || byteAt(at) == 32)) {
-                at++;
-            }
-            return at;
-        }
-
-        private int pastLetters(int from) {
-            int at = from;
-            while (at < length && isLetter(byteAt(at))) {
-                at++;
-            }
-            return at;
-        }
-
-        private int pastDigits(int from) {
-            int at = from;
-            while (at < length && isDigit(byteAt(at))) {
-                at++;
-            }
-            return at;
+            kind = stop - begin > MOST_DIGITS ? NO_TOKEN : NUMBER;
         }
 
         private int byteAt(int at) {
-            return text != null && at >= 0 && at < text.length ? text[at] & 255 : 0;
+            return at >= 0 && at < text.length ? text[at] & 255 : 0;
+        }
+
+        private static boolean isBlank(int b) {
+            return b == 10 || b == 32;
         }
 
         private static boolean isLetter(int b) {
@@ -1209,8 +1197,8 @@ public final class SecondLife {
 
         private final int[] facts = new int[FACTS];
         private final int[] heap = new int[HEIGHT];
-        private int top = 0;
 
+        /** Turns to a person as it stands now. */
         private void about(People people, int p) {
             facts[TALENT] = people.part(p, People.TALENT);
             facts[YEAR] = people.part(p, People.YEAR);
@@ -1229,26 +1217,31 @@ public final class SecondLife {
             return within(tell(town.growsLaw), 0, town.years);
         }
 
+        /** The sum that a law tells; each sign takes what it works on from the top of the heap. */
         private int tell(int[] law) {
-            top = 0;
+            int top = 0;
             for (int i = 0; i < law.length; i++) {
                 int sign = law[i];
-                if (sign >= 0) {
-                    push(sign);
-                } else if (sign <= FACT) {
-                    push(factAt(FACT - sign));
+                if (sign >= 0 || sign <= FACT) {
+                    if (top < heap.length) {
+                        heap[top] = sign >= 0 ? sign : factAt(FACT - sign);
+                        top++;
+                    }
                 } else if (sign == NOT) {
-                    push(1 - pop());
+                    if (top >= 1) {
+                        heap[top - 1] = 1 - heap[top - 1];
+                    }
                 } else if (sign == IF) {
-                    int otherwise = pop();
-                    int then = pop();
-                    push(pop() != 0 ? then : otherwise);
-                } else {
-                    int right = pop();
-                    push(joined(sign, pop(), right));
+                    if (top >= 3) {
+                        top -= 2;
+                        heap[top - 1] = heap[top - 1] != 0 ? heap[top] : heap[top + 1];
+                    }
+                } else if (top >= 2) {
+                    top--;
+                    heap[top - 1] = joined(sign, heap[top - 1], heap[top]);
                 }
             }
-            return pop();
+            return heap[0];
         }
 
         private static int joined(int sign, int left, int right) {
@@ -1259,7 +1252,7 @@ public final class SecondLife {
                     return within(left - right, -FARTHEST, FARTHEST);
                 case TIMES:
                     long product = (long) left * right;
-                    return (int) Math.max(-FARTHEST, Math.min(FARTHEST, product));
+                    return product > FARTHEST ? FARTHEST : product < -FARTHEST ? -FARTHEST : (int) product;
                 case SAME:
                     return left == right ? 1 : 0;
                 case LESS:
@@ -1275,21 +1268,6 @@ public final class SecondLife {
 
         private int factAt(int fact) {
             return fact >= 0 && fact < facts.length ? facts[fact] : 0;
-        }
-
-        private void push(int value) {
-            if (top < heap.length) {
-                heap[top] = value;
-                top++;
-            }
-        }
-
-        private int pop() {
-            if (top <= 0) {
-                return 0;
-            }
-            top--;
-            return heap[top];
         }
     }
 
@@ -1569,13 +1547,14 @@ public final class SecondLife {
             int at = stand * MOST_TRADES + trade;
             long known = memo.find(at, townStamp);
             if (known == NONE) {
-                known = reckonWorth(stand, trade) - LEAST_WORTH;
+                turnTo(stand);
+                known = reckoner.worthOf(town, trade) - LEAST_WORTH;
                 memo.keep(at, townStamp, known);
             }
             return (int) known + LEAST_WORTH;
         }
 
-        private int reckonWorth(int stand, int trade) {
+        private void turnTo(int stand) {
             int life = lifeOf(stand);
             int[] facts = reckoner.facts;
             facts[Reckoner.TALENT] = talent;
@@ -1584,7 +1563,6 @@ public final class SecondLife {
             facts[Reckoner.STREAK] = streakOf(stand);
             facts[Reckoner.LIFE] = life == 0 ? 1 : 2;
             facts[Reckoner.OLD] = life == 0 ? 0 : life - 1;
-            return reckoner.worthOf(town, trade);
         }
     }
 
@@ -1606,19 +1584,25 @@ public final class SecondLife {
 
         /** The most that years from a stand on are worth. */
         private int mostFrom(int stand) {
-            return (scoreFrom(stand) + WEIGHT - 1) / WEIGHT;
+            return (scoreIn(bestFrom(stand)) + WEIGHT - 1) / WEIGHT;
         }
 
-        /** The worth weighed, less the doings, of the best course: fewer doings win among like ones. */
-        private int scoreFrom(int stand) {
-            return (int) (bestFrom(stand) / WEIGHT);
+        /** The same of a stand that mostFrom has come by; of others nothing is known, so all may be had there. */
+        private int knownMost(int stand) {
+            long known = bests.find(stand, ways.stamp);
+            return known == NONE ? MOST_DOINGS * MOST_WORTH : (scoreIn(known) + WEIGHT - 1) / WEIGHT;
         }
 
-        private int doingFrom(int stand) {
-            return (int) (bestFrom(stand) % WEIGHT) - 1;
+        /** The worth weighed, less the doings: of courses worth the same the one of fewer doings has more. */
+        private static int scoreIn(long best) {
+            return (int) (best / WEIGHT);
         }
 
-        /** The score and, behind it, 1 more than the first doing; a year or LIFE 1 ends with each deeper call. */
+        private static int doingIn(long best) {
+            return (int) (best % WEIGHT) - 1;
+        }
+
+        /** The best course's score and, behind it, 1 more than its first doing; each call within ends a year or LIFE 1. */
         private long bestFrom(int stand) {
             long known = bests.find(stand, ways.stamp);
             if (known != NONE) {
@@ -1628,15 +1612,16 @@ public final class SecondLife {
             int doing = NONE;
             int open = ways.openTrades(stand);
             for (int trade = 0; trade < open; trade++) {
-                int by = scoreFrom(ways.afterYear(stand, trade)) + ways.worthOf(stand, trade) * WEIGHT - 1;
+                int by = scoreIn(bestFrom(ways.afterYear(stand, trade))) + ways.worthOf(stand, trade) * WEIGHT - 1;
                 if (by > score) {
                     score = by;
                     doing = trade;
                 }
             }
             int drawn = ways.afterDrawing(stand);
-            if (drawn != NONE && scoreFrom(drawn) - 1 > score) {
-                score = scoreFrom(drawn) - 1;
+            int byDrawing = drawn == NONE ? NONE : scoreIn(bestFrom(drawn)) - 1;
+            if (byDrawing > score) {
+                score = byDrawing;
                 doing = DRAWS;
             }
             long best = (long) score * WEIGHT + doing + 1;
@@ -1651,7 +1636,7 @@ public final class SecondLife {
         private int doingAt(int i) {
             int stand = ways.start;
             for (int done = 0; done < MOST_DOINGS; done++) {
-                int doing = doingFrom(stand);
+                int doing = doingIn(bestFrom(stand));
                 if (doing == NONE || done == i) {
                     return doing;
                 }
@@ -1663,7 +1648,7 @@ public final class SecondLife {
         private int drawingYear() {
             int stand = ways.start;
             for (int done = 0; done < MOST_DOINGS; done++) {
-                int doing = doingFrom(stand);
+                int doing = doingIn(bestFrom(stand));
                 if (doing == NONE) {
                     return NONE;
                 }
@@ -1679,7 +1664,7 @@ public final class SecondLife {
             int stand = ways.start;
             int listed = 0;
             for (int i = 0; i < MOST_DOINGS && i < tray.size; i++) {
-                int doing = doingFrom(stand);
+                int doing = doingIn(bestFrom(stand));
                 if (doing == NONE) {
                     break;
                 }
@@ -1864,11 +1849,16 @@ public final class SecondLife {
                     && meanByDrawing(stand, tenthsAt(stand)) == meanFrom(stand);
         }
 
+        private long hopeNow(int need) {
+            plans.mostFrom(ways.start);
+            return hopeFrom(ways.start, need);
+        }
+
         private long hopeFrom(int stand, int need) {
             if (need <= 0) {
                 return tens(tenthsAt(stand));
             }
-            if (need > plans.mostFrom(stand) || stand < 0 || stand >= hopesAt.length) {
+            if (need > plans.knownMost(stand) || stand < 0 || stand >= hopesAt.length) {
                 return 0L;
             }
             Memo kept = keptHopes();
@@ -1899,7 +1889,7 @@ public final class SecondLife {
 
         private int hopeDoing(int need) {
             int stand = ways.start;
-            long best = hopeFrom(stand, need);
+            long best = hopeNow(need);
             if (need <= 0 || best == 0) {
                 return NONE;
             }
