@@ -713,19 +713,21 @@ public final class SecondLife {
 
         private int runOf(int set, int calmed) {
             int in = set;
-            for (int round = 0; round < size; round++) {
-                in |= joining(in, calmed);
+            int joined = joining(in, calmed);
+            for (int round = 0; round < size && joined != 0; round++) {
+                in |= joined;
+                joined = joining(in, calmed);
             }
             return in;
         }
 
         private int roundsOf(int set) {
             int in = set;
+            int joined = joining(in, 0);
             int rounds = 0;
-            for (int round = 0; round < size; round++) {
-                int joined = joining(in, 0);
+            for (; rounds < size && joined != 0; rounds++) {
                 in |= joined;
-                rounds += joined != 0 ? 1 : 0;
+                joined = joining(in, 0);
             }
             return rounds;
         }

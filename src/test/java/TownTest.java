@@ -17,6 +17,7 @@ public final class TownTest {
         worth();
         sums();
         truths();
+        deepest();
         grown();
         Due.end();
     }
@@ -259,6 +260,20 @@ public final class TownTest {
         Due.is("six within", truth("not not not not [ 1 = 1 ]"), 1);
         Due.is("if in a sum", sum("1 + if 1 = 2 then 5 else 3 end * 2"), 7);
         Due.is("if in if", sum("if if 1 = 1 then 2 else 3 end = 2 then 4 else 5 end"), 4);
+    }
+
+    /** The most that a law can leave open at once: six ifs, each in the last place of another's truth. */
+    private static void deepest() {
+        Due.is("all the same", sum(deep("7")), 7);
+        Due.is("one is another", sum(deep("6")), 5);
+    }
+
+    private static String deep(String innermost) {
+        String law = innermost;
+        for (int k = 0; k < 6; k++) {
+            law = "0+1*if 1=2 or 1=1 and 0=0-7+1*" + law + " then 7 else 5 end";
+        }
+        return law;
     }
 
     // 7
