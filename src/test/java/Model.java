@@ -515,6 +515,30 @@ final class Model {
         return many;
     }
 
+    /** The most it has behind just so many doings, or the least int. */
+    int mostBehind(Guy g, int doings, Map<String, Integer> known) {
+        if (doings == 0) {
+            return g.has;
+        }
+        String key = g.key() + "/" + g.has + "/" + doings;
+        Integer seen = known.get(key);
+        if (seen != null) {
+            return seen;
+        }
+        int most = Integer.MIN_VALUE;
+        for (int doing : open(g)) {
+            Guy h = g.copy();
+            if (doing == 9) {
+                drawLife(h);
+            } else {
+                liveYear(h, doing);
+            }
+            most = Math.max(most, mostBehind(h, doings - 1, known));
+        }
+        known.put(key, most);
+        return most;
+    }
+
     /** Whether all courses can be walked one by one. */
     boolean small() {
         return Math.pow(place.trades, 2 * place.years) < 5000;
@@ -711,8 +735,10 @@ final class Model {
         if (n < 0 || n > 60) {
             return no(3);
         }
-        Guy g = now.guys.get(p);
-        Map<String, Part> known = new HashMap<>();
+        return hopingFrom(now.guys.get(p), n, new HashMap<>());
+    }
+
+    int hopingFrom(Guy g, int n, Map<String, Part> known) {
         Part best = hopeFrom(g, n, known);
         if (best.compareTo(n <= 0 ? Part.ONE : Part.ZERO) == 0) {
             return NONE;

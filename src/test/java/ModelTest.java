@@ -1,10 +1,13 @@
 import java.util.ArrayList;
+import java.util.HashMap;
 import java.util.List;
+import java.util.Map;
 import java.util.Random;
 
 /** Runs of calls, drawn by fixed seeds, answered by the class and by the plain model. */
 public final class ModelTest {
-    private static final int RUNS = 400;
+    private static final int RUNS = 300;
+    private static final int FAR = 1000000;
     private final Random r;
     private final SecondLife x = new SecondLife();
     private final Model m = new Model();
@@ -21,6 +24,9 @@ public final class ModelTest {
         int runs = args.length > 0 ? Integer.parseInt(args[0]) : RUNS;
         for (int i = 0; i < runs; i++) {
             new ModelTest(i).go();
+        }
+        for (int i = 0; i < runs / 25; i++) {
+            new ModelTest(FAR + i).goFar();
         }
         Due.end();
     }
@@ -39,6 +45,50 @@ public final class ModelTest {
         int calls = 60 + r.nextInt(60);
         for (int i = 0; i < calls && !off; i++) {
             call();
+        }
+    }
+
+    /** Long lives with many trades, where years differ much and may take much away. */
+    private void goFar() {
+        StringBuilder worth = new StringBuilder();
+        for (int t = 0; t < 4; t++) {
+            worth.append("if trade = ").append(t).append(" then ").append(r.nextInt(10)).append(" - (")
+                    .append(r.nextInt(4)).append("*streak) + ").append(r.nextInt(3)).append("*year - ")
+                    .append(r.nextInt(3)).append("*old + if last < trade then 0 - ").append(r.nextInt(15))
+                    .append(" else if year > ").append(r.nextInt(5)).append(" and life = 2 then ").append(r.nextInt(9))
+                    .append(" else 0 end end else ");
+        }
+        worth.append("0 end end end end");
+        tell("town years " + (5 + r.nextInt(2)) + " trades " + (3 + r.nextInt(2)) + ";person talent 3;person;cash 9;dies "
+                + r.nextInt(10) + ";grows : " + (r.nextBoolean() ? "year - 2" : "0") + ";worth : " + worth + ";");
+        for (int i = 0; i < 4 && !off; i++) {
+            far(0);
+            doSome();
+        }
+    }
+
+    private void far(int p) {
+        Model.Guy g = m.now.guys.get(p);
+        Map<String, Model.Part> hopes = new HashMap<>();
+        for (int n = 0; n <= 60; n += 1 + r.nextInt(5)) {
+            same("hope " + p + " " + n + " 0", x.hope(p, n, 0), m.hopeFrom(g, n, hopes).get(0));
+            same("hope " + p + " " + n + " 1", x.hope(p, n, 1), m.hopeFrom(g, n, hopes).get(1));
+            same("hoping " + p + " " + n, x.hoping(p, n), m.hopingFrom(g, n, hopes));
+        }
+        askChances();
+        same("best " + p, x.best(p), m.best(p));
+        List<Integer> doings = m.bestCourse(g, new HashMap<>()).doings;
+        for (int i = 0; i < 14; i++) {
+            same("course " + p + " " + i, x.course(p, i), i < doings.size() ? doings.get(i) : -1);
+        }
+        Map<String, Integer> known = new HashMap<>();
+        for (int n = -5; n <= 110; n += 1 + r.nextInt(9)) {
+            int due = -1;
+            for (int k = 13; k >= 0; k--) {
+                int most = m.mostBehind(g, k, known);
+                due = most != Integer.MIN_VALUE && most >= n ? k : due;
+            }
+            same("soonest " + p + " " + n, x.soonest(p, n), due);
         }
     }
 
@@ -156,7 +206,8 @@ public final class ModelTest {
             }
             same("feed", x.feed(w[0], w[1], w[2], w[3], w[4]), m.feed(w));
         }
-        same("town \"" + text + "\"", x.town(text.length()), m.town(text.length()));
+        int n = run < FAR && r.nextInt(25) == 0 ? r.nextInt(text.length() + 1) : text.length();
+        same("town " + n + " \"" + text + "\"", x.town(n), m.town(n));
         same("fault(0)", x.fault(0), m.fault(0));
         same("fault(1)", x.fault(1), m.fault(1));
     }

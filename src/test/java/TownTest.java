@@ -9,6 +9,7 @@ public final class TownTest {
         feed();
         town();
         townKeepsAllWithAFault();
+        townCutsTheText();
         faults();
         faultsOfLaws();
         tokens();
@@ -91,6 +92,22 @@ public final class TownTest {
         Due.is("talent", x.person(0, 6), 3);
     }
 
+    /** What stands behind the first n bytes is none of the text, even within a token. */
+    private static void townCutsTheText() {
+        SecondLife x = new SecondLife();
+        Due.feed(x, "town years 1 trades 1;personal");
+        Due.is("cut within a word", x.town(28), -99000032);
+        Due.is("at the end", x.fault(1), 28);
+        Due.feed(x, "town years 1 trades 1;cash 1234;");
+        Due.is("cut within digits", x.town(30), -99000032);
+        Due.is("at the end", x.fault(1), 30);
+        Due.feed(x, "town years 1 trades 12;");
+        Due.is("cut behind a digit", x.town(21), -99000032);
+        Due.is("at the end", x.fault(1), 21);
+        Due.feed(x, "town years 1 trades 1;  x");
+        Due.is("cut behind blanks", x.town(24), 1);
+    }
+
     // 4
     private static void fault(String text, int kind, int place) {
         SecondLife x = new SecondLife();
@@ -154,6 +171,12 @@ public final class TownTest {
         fault(head + "worth : if [[[[[[ 1 = 1", 4, 38);
         fault(head + "worth : if not [ not [ ( if not", 4, 47);
         fault(head + "worth : 1000;", 1, 30);
+        fault(head + "worth : if 1 = ((((((1", 4, 42);
+        fault(head + "worth : if 1 = 1 then ((((((1", 4, 49);
+        fault(head + "worth : if 1 = 1 then 1 else ((((((1", 4, 56);
+        fault(head + "worth : if [[[[[ 1 < (1", 4, 43);
+        fault(head + "worth : (((((if 1 = 1 and not 1", 4, 48);
+        fault(head + "worth : (((((if 1 = 1 or [ 1", 4, 47);
     }
 
     private static void tokens() {
