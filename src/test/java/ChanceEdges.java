@@ -270,6 +270,11 @@ final class ChanceEdges {
         Edge.is("in LIFE 2", y.hoping(0, 4), 0);
         SecondLife z = Due.town("town years 1 trades 1;person;dies 5;worth : if life = 2 then 4 else 0 end;");
         Edge.is("a TRADE ahead of DRAWING", z.hoping(0, 4), 0);
+        SecondLife v = Due.town("town years 1 trades 1;person;worth : if life = 2 then 4 else if trade = 0 then 0 - 1 else 9 end end;");
+        Edge.is("no TRADE that there isn't", v.hoping(0, 4), 9);
+        Edge.is("nor ON THE MEAN", v.choice(0), 9);
+        v.live(0, 0);
+        Edge.is("OVER it may DRAW", v.hoping(0, 4), 9);
         Edge.is("60, surely", Due.town("town years 6 trades 2;person;worth : 4 + trade;").hoping(0, 60), 1);
 
         Edge.sentence(26, "NONE: to stop is as good;");

@@ -7,6 +7,7 @@ final class CourseEdges {
 
     static void all() {
         made();
+        seen();
         ends();
         bestOfAll();
         fewest();
@@ -41,6 +42,58 @@ final class CourseEdges {
         course(x, 1);
         x.live(0, 1);
         course(x);
+    }
+
+    /** What the laws see of a PERSON as it stands now, and of where it could come to stand. */
+    private static void seen() {
+        Edge.sentence(17, "A COURSE of a PERSON from now on:");
+        SecondLife x = Due.town("town years 6 trades 4;person;grows : 6;worth : if trade = last then streak else 0 end;");
+        Edge.is("streaks 1 to 5", x.best(0), 1 + 2 + 3 + 4 + 5);
+        x.live(0, 2);
+        x.live(0, 2);
+        Edge.is("a streak of 2 that stands", x.best(0), 2 + 3 + 4 + 5);
+        course(x, 2, 2, 2, 2);
+        x.live(0, 3);
+        Edge.is("a streak of 1 that stands", x.best(0), 1 + 2 + 3);
+        course(x, 3, 3, 3);
+        Edge.is("mean", x.mean(0, 0), 6);
+        Edge.is("hope", x.hope(0, 6, 0), 1);
+        Edge.is("soonest 0 + 1 + 0 + 1 + 2", x.soonest(0, 4), 2);
+        SecondLife s = Due.town("town years 6 trades 1;person;grows : 6;worth : 5 - streak * 2;");
+        Edge.is("no streak, then 1, then 2", s.best(0), 5 + 3 + 1);
+        s.live(0, 0);
+        Edge.is("a streak of 1 in TRADE 0", s.best(0), 3 + 1);
+        SecondLife u = Due.town("town years 3 trades 1;person talent 1;person talent 7;grows : 3;worth : talent - year;");
+        u.live(0, 0);
+        u.live(0, 0);
+        Edge.is("nothing more is WORTH anything", u.best(0), 0);
+        Edge.is("the other's TALENT is asked for", u.worth(1, 0), 7);
+        u.undo(2);
+        Edge.is("its own TALENT counts", u.best(0), 1);
+        SecondLife y = Due.town("town years 2 trades 1;person;worth : if life = 1 then old + 1 else old * 2 + 1 end;");
+        Edge.is("1 + 1 in LIFE 1, old 2 in LIFE 2", y.best(0), 2 + 5 + 5);
+        y.live(0, 0);
+        y.draw(0);
+        Edge.is("old 1 that stands", y.best(0), 3 + 3);
+        y.live(0, 0);
+        Edge.is("a YEAR of it", y.best(0), 3);
+        SecondLife z = Due.town("town years 3 trades 2;person talent 1;person talent 3;person talent 2;grows : talent;worth : talent;");
+        Edge.is("TALENT 1", z.best(0), 3 + 2);
+        Edge.is("TALENT 3", z.best(1), 9);
+        Edge.is("TALENT 2", z.best(2), 6 + 2);
+        Edge.is("TALENT 1", z.courses(0), 4 * (1 + 2 + 4 + 8));
+        Edge.is("TALENT 3", z.courses(1), 1 + 2 + 4 + 8);
+        z.talent(0, 2);
+        Edge.is("a TALENT it came to have", z.best(0), 6 + 2);
+        z.undo(1);
+        Edge.is("UNDONE", z.best(0), 3 + 2);
+        z.live(0, 0);
+        z.live(0, 0);
+        Edge.is("from YEAR 2 on", z.courses(0), 4 * (1 + 2));
+        SecondLife w = Due.town("town years 2 trades 1;person;grows : year;worth : if life = 2 then year * 2 + 1 else year end;");
+        // drawn in YEAR 0: 1 + 3; in YEAR 1: 0 + 3; never: 0 + 1
+        Edge.is("years and lives", w.best(0), 4);
+        course(w, 9, 0, 0);
     }
 
     private static void ends() {
@@ -89,6 +142,15 @@ final class CourseEdges {
         // 1 and 1 by TRADE 0, or 2 by TRADE 1: one doing is fewer than two
         Edge.is("WORTH", t.best(0), 2);
         course(t, 1);
+        // 3 by three YEARS, or by a DRAWING and two: a DRAWING is a doing too
+        course(Due.town(drawnAtOnce("year", 1)), 0, 0, 0);
+        // 3 by three YEARS, or by a DRAWING and one
+        course(Due.town(drawnAtOnce("3", 2)), 9, 0);
+    }
+
+    private static String drawnAtOnce(String second, int grown) {
+        return "town years 3 trades 1;person;grows : " + grown + ";worth : if life = 1 then 1 else if old > 0 then 0 - 9 else "
+                + second + " end end;";
     }
 
     private static void first() {
@@ -244,6 +306,9 @@ final class CourseEdges {
         SecondLife z = Due.town("town years 2 trades 2;person;worth : if life = 2 then 0 else if trade = 1 then 5 else if last = 0 then 9 else 0 end end end;");
         Edge.is("the greatest at the end isn't soonest", z.soonest(0, 5), 1);
         Edge.is("9 by two", z.soonest(0, 9), 2);
+        SecondLife most = Due.town("town years 6 trades 4;person;worth : 9;");
+        Edge.is("108 by all there are", most.soonest(0, 108), 13);
+        Edge.is("109", most.soonest(0, 109), Edge.NONE);
 
         Edge.sentence(21, "NONE: by none;");
         Edge.is("22", Due.town("town years 3 trades 2;person;worth : if life = 2 then 9 else trade end;grows : 1;").soonest(0, 22), Edge.NONE);

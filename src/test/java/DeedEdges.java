@@ -201,16 +201,20 @@ final class DeedEdges {
         Due.fill(x, 0, 0, 100, 101);
         Edge.is("all", x.perform(0), 2);
         Edge.is("both DREW", x.count(5), 3);
+        SecondLife y = Due.town("town years 2 trades 2;person;");
+        Due.fill(y, 0, 1, 0);
+        Edge.is("one", y.perform(0), 1);
+        Edge.is("one call", y.undo(1), 0);
 
         Edge.sentence(15, "-2;");
         int[] wrong = {-1, 4, Edge.LEAST, Edge.MOST};
         for (int n : wrong) {
-            Edge.no(2, "perform(" + n + ")", Made::rich, y -> y.perform(n));
+            Edge.no(2, "perform(" + n + ")", Made::rich, z -> z.perform(n));
         }
 
         Edge.sentence(15, "-6.");
-        Edge.no(6, "perform(3)", Made::rich, y -> y.perform(3));
-        Edge.no(6, "of a new object", Made::nothing, y -> y.perform(0));
+        Edge.no(6, "perform(3)", Made::rich, z -> z.perform(3));
+        Edge.no(6, "of a new object", Made::nothing, z -> z.perform(0));
     }
 
     // ---- seasons
@@ -333,6 +337,9 @@ final class DeedEdges {
         Edge.is("as a whole", a.undo(1), 0);
         Edge.is("all HAVE", a.count(4), 0);
         Edge.is("CASH", a.count(3), 999);
+        SecondLife c = Due.town(SIX);
+        Edge.is("one", c.season(0, 1), 1);
+        Edge.is("one call", c.undo(1), 0);
         SecondLife b = Due.town("town years 1 trades 1;");
         Edge.is("nobody", b.season(5, 40), 0);
         Edge.is("no call", b.count(7), 0);

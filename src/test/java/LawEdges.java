@@ -119,6 +119,18 @@ final class LawEdges {
         Edge.is("> same", Made.truth("2 > 2"), 2);
         Edge.is("> more", Made.truth("3 > 2"), 1);
         Edge.is("below 0", Made.truth("0 - 2 < 0 - 1"), 1);
+        String[] hold = {"1 = 1", "1 < 2", "2 > 1"};
+        String[] fail = {"1 = 2", "2 < 1", "1 > 2"};
+        for (int i = 0; i < 3; i++) {
+            Edge.is("not " + hold[i], Made.truth("not " + hold[i]), 2);
+            Edge.is("not " + fail[i], Made.truth("not " + fail[i]), 1);
+            for (int k = 0; k < 3; k++) {
+                Edge.is("both hold", Made.truth(hold[i] + " and " + hold[k]), 1);
+                Edge.is("one holds", Made.truth(hold[i] + " and " + fail[k]), 2);
+                Edge.is("one holds", Made.truth(hold[i] + " or " + fail[k]), 1);
+                Edge.is("none holds", Made.truth(fail[i] + " or " + fail[k]), 2);
+            }
+        }
         Edge.is("( begins a SUM", Made.truth("(1 + 1) * 2 = 4"), 1);
         fault("if 1 = 1 = 1 then 1 else 2 end;", 2, 9);
         fault("if [ 1 ] = 1 then 1 else 2 end;", 2, 7);

@@ -159,6 +159,16 @@ final class TalentEdges {
         // of 0 to 4: by 2 five alike, by 3 four
         Edge.is("of 0 to 4", lived(town, 1).attempt(0, 0, 1), 3);
 
+        // TRADE 2 left 0 and 1, which TRADE 1 tells apart
+        Edge.is("of 0 and 1", lived("town years 1 trades 3;person;worth : if trade = 0 then 0 else if trade = 1 then talent else "
+                + "if talent < 2 then 0 else 1 end end end;", 2).attempt(0, 0, 0), 1);
+        Edge.is("alike by -9", lived("town years 1 trades 2;person;worth : if trade = 0 then 0 - 20 else talent - 5 end;", 0)
+                .attempt(0, 0, -9), 1);
+        Edge.is("alike by 9", lived("town years 1 trades 2;person;worth : if trade = 0 then 20 else talent - 5 end;", 0)
+                .attempt(0, 0, 9), 1);
+        Edge.is("of the TRADES there are", lived("town years 1 trades 2;person;worth : if trade > 1 then talent else 0 end;", 0)
+                .attempt(0, 0, 0), 0);
+
         Edge.sentence(28, "the first.");
         Edge.is("one is left: each will do", lived(town, 2).attempt(0, 0, 9), 0);
         Edge.is("none tells them apart", lived("town years 1 trades 4;person;", 3).attempt(0, 0, 1), 0);

@@ -562,6 +562,14 @@ final class TextEdges {
         Edge.is("nor who dies", z.mean(0, 0), 10);
         Edge.is("nor a talent", z.person(0, 6), 0);
 
+        SecondLife v = new SecondLife();
+        for (int n = 1; n <= 3; n++) {
+            Due.tell(v, "town years 1 trades 1;person;worth : " + n + ";grows : 0;dies 0;");
+            asked(v, 2 * n);
+            Due.tell(v, "town years 1 trades 1;person;worth : " + n + ";grows : 1;dies 0;");
+            asked(v, n);
+        }
+
         Edge.sentence(3, "all are in LIFE 1, YEAR 0,");
         SecondLife w = Made.richOne();
         Due.tell(w, "");
@@ -585,6 +593,14 @@ final class TextEdges {
         Edge.is("town alone", told(HEAD), 1);
         Edge.is("LINES that are struck too", told(line("cash 1;cash 2;worth : 1;worth : 2;")), 5);
         Edge.is("as many as there can be", told(HEAD + "cash 1;".repeat(125)), 126);
+    }
+
+    private static void asked(SecondLife x, int due) {
+        Edge.is("best by the new TOWN", x.best(0), due);
+        Edge.is("mean by the new TOWN", x.mean(0, 0), due);
+        Edge.is("hope by the new TOWN", x.hope(0, due, 0), 1);
+        Edge.is("no more", x.hope(0, due + 1, 0), 0);
+        Edge.is("soonest by the new TOWN", x.soonest(0, due + 1), Edge.NONE);
     }
 
     private static void townRefused() {

@@ -343,6 +343,9 @@ final class TrayEdges {
         Edge.is("nobody has PLEDGED", six.count(6), 0);
         Edge.is("less than nothing", six.count(4), -54);
         Edge.is("ten at most", six.count(7), 10);
+        SecondLife one = Due.town("town years 1 trades 1;person;person;cash 1;");
+        one.pledge(1, 1);
+        Edge.is("PLEDGED for 1", one.count(6), 2);
         SecondLife full = new SecondLife();
         Made.full(full);
         Edge.is("900 at most", full.count(8), 900);
