@@ -85,13 +85,15 @@ final class TextEdges {
         int calls = Due.feed(x, "town years 6 trades 4;person;worth : trade;") / 20 + 1;
         x.town(43);
         calls++;
-        while (calls < 509) {
+        while (calls < 508) {
             Edge.is("live", x.live(0, 3), 3);
             Edge.is("undo", x.undo(1), 0);
             calls += 2;
         }
         Edge.is("best, late", x.best(0), 36);
-        x.live(0, 2);
+        Edge.is("live, late", x.live(0, 2), 2);
+        Edge.is("calls ahead of the last two", calls + 2, 510);
+        Edge.is("the 511th call", x.person(0, 0), 1);
         Edge.is("the 512th call", x.person(0, 2), 2);
 
         Edge.sentence(1, "what later calls answer is free.");
