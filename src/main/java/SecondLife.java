@@ -1135,21 +1135,17 @@ public final class SecondLife {
                     stop++;
                 }
             } else if (isDigit(first)) {
-                readDigits();
+                number = first - '0';
+                while (stop < length && isDigit(byteAt(stop))) {
+                    if (stop - begin < MOST_DIGITS) {
+                        number = number * 10 + byteAt(stop) - '0';
+                    }
+                    stop++;
+                }
+                kind = stop - begin > MOST_DIGITS ? NO_TOKEN : NUMBER;
             } else {
                 kind = SIGNS.indexOf((char) first) >= 0 ? SIGN : NO_TOKEN;
             }
-        }
-
-        private void readDigits() {
-            number = byteAt(begin) - '0';
-            while (stop < length && isDigit(byteAt(stop))) {
-                if (stop - begin < MOST_DIGITS) {
-                    number = number * 10 + byteAt(stop) - '0';
-                }
-                stop++;
-            }
-            kind = stop - begin > MOST_DIGITS ? NO_TOKEN : NUMBER;
         }
 
         private int byteAt(int at) {
@@ -1248,13 +1244,6 @@ public final class SecondLife {
 
         private static int joined(int sign, int left, int right) {
             switch (sign) {
-                case PLUS:
-                    return within(left + right, -FARTHEST, FARTHEST);
-                case MINUS:
-                    return within(left - right, -FARTHEST, FARTHEST);
-                case TIMES:
-                    long product = (long) left * right;
-                    return product > FARTHEST ? FARTHEST : product < -FARTHEST ? -FARTHEST : (int) product;
                 case SAME:
                     return left == right ? 1 : 0;
                 case LESS:
@@ -1263,8 +1252,11 @@ public final class SecondLife {
                     return left > right ? 1 : 0;
                 case AND:
                     return left & right;
-                default:
+                case OR:
                     return left | right;
+                default:
+                    long sum = sign == PLUS ? left + right : sign == MINUS ? left - right : (long) left * right;
+                    return sum > FARTHEST ? FARTHEST : sum < -FARTHEST ? -FARTHEST : (int) sum;
             }
         }
 
@@ -1589,7 +1581,7 @@ public final class SecondLife {
             return (scoreIn(bestFrom(stand)) + WEIGHT - 1) / WEIGHT;
         }
 
-        /** The same of a stand that mostFrom has come by; of others nothing is known, so all may be had there. */
+        /** The same of a stand that bestFrom has come by; of others nothing is known, so all may be had there. */
         private int knownMost(int stand) {
             long known = bests.find(stand, ways.stamp);
             return known == NONE ? MOST_DOINGS * MOST_WORTH : (scoreIn(known) + WEIGHT - 1) / WEIGHT;
@@ -1852,7 +1844,7 @@ public final class SecondLife {
         }
 
         private long hopeNow(int need) {
-            plans.mostFrom(ways.start);
+            plans.bestFrom(ways.start);
             return hopeFrom(ways.start, need);
         }
 
