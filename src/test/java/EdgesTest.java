@@ -12,6 +12,7 @@ public final class EdgesTest {
         TalentEdges.all();
         RunEdges.all();
         TrayEdges.all();
+        OwnEdges.all();
         Edge.nothingUnasked();
         System.out.println(Edge.WORDS.size() + " sentences were tested");
         Document.check();

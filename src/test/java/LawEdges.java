@@ -90,6 +90,8 @@ final class LawEdges {
         Edge.is("none", Made.truth("1 = 2 or 1 = 3"), 2);
         Edge.is("the first", Made.truth("1 = 1 or 1 = 3"), 1);
         Edge.is("the last", Made.truth("1 = 2 or 1 = 3 or 1 = 1"), 1);
+        Edge.is("two", Made.truth("1 = 1 or 2 = 2"), 1);
+        Edge.is("all", Made.truth("1 = 1 or 2 = 2 or 3 = 3"), 1);
         Edge.is("and goes ahead of it", Made.truth("1 = 1 or 1 = 1 and 1 = 2"), 1);
         fault("if 1 = 1 or then 1 else 2 end;", 2, 12);
         fault("if or 1 = 1 then 1 else 2 end;", 2, 3);
@@ -98,6 +100,7 @@ final class LawEdges {
         Edge.is("both", Made.truth("1 = 1 and 2 = 2"), 1);
         Edge.is("not the first", Made.truth("1 = 2 and 2 = 2"), 2);
         Edge.is("not the last", Made.truth("1 = 1 and 2 = 2 and 3 = 4"), 2);
+        Edge.is("neither", Made.truth("1 = 2 and 2 = 3"), 2);
         fault("if 1 = 1 and then 1 else 2 end;", 2, 13);
     }
 
@@ -127,7 +130,11 @@ final class LawEdges {
             for (int k = 0; k < 3; k++) {
                 Edge.is("both hold", Made.truth(hold[i] + " and " + hold[k]), 1);
                 Edge.is("one holds", Made.truth(hold[i] + " and " + fail[k]), 2);
+                Edge.is("both hold", Made.truth(hold[i] + " or " + hold[k]), 1);
                 Edge.is("one holds", Made.truth(hold[i] + " or " + fail[k]), 1);
+                Edge.is("the other holds", Made.truth(fail[i] + " or " + hold[k]), 1);
+                Edge.is("the other holds", Made.truth(fail[i] + " and " + hold[k]), 2);
+                Edge.is("none holds", Made.truth(fail[i] + " and " + fail[k]), 2);
                 Edge.is("none holds", Made.truth(fail[i] + " or " + fail[k]), 2);
             }
         }
