@@ -124,18 +124,45 @@ final class OwnEdges {
         own("talent", (x, p) -> behind(x, p, x.talent(p, 8)));
 
         Edge.sentence(13, "n calls (1 to 10) are UNDONE: how many still can be.");
-        ownOfAll("undone: deed", 0, 4, (x, p, deed) -> {
-            long was = parts(x, p);
-            int cash = x.count(3);
-            int done = x.count(7);
-            long[] answers = {x.live(p, 1), x.draw(p), x.pledge(p, 5), x.redeem(p), x.talent(p, 9)};
-            int did = 0;
-            for (long answer : answers) {
-                did += answer > -99000000 ? 1 : 0;
+        for (int deed = 0; deed < 5; deed++) {
+            for (int p = 0; p < 6; p++) {
+                undone(p, deed);
             }
-            x.undo(did);
-            return (parts(x, p) == was ? 1 : 0) + (x.count(3) == cash ? 2 : 0) + deed;
-        });
+        }
+    }
+
+    private static long one(SecondLife x, int p, int deed) {
+        switch (deed) {
+            case 0:
+                return x.live(p, 1);
+            case 1:
+                return x.draw(p);
+            case 2:
+                return x.pledge(p, 5);
+            case 3:
+                return x.redeem(p);
+            default:
+                return x.talent(p, 9);
+        }
+    }
+
+    /** What one PERSON did is UNDONE, and all of the six are as they were. */
+    private static void undone(int p, int deed) {
+        int did = 0;
+        for (int state = 0; state < STATES; state++) {
+            SecondLife x = amongOthers(p, state);
+            SecondLife was = amongOthers(p, state);
+            if (one(x, p, deed) > -99000000) {
+                did++;
+                Edge.holds("deed " + deed + " of PERSON " + p + " in state " + state, parts(x, p) != parts(was, p));
+                x.undo(1);
+            }
+            for (int other = 0; other < 6; other++) {
+                Edge.is("PERSON " + other + " behind deed " + deed + " of " + p, parts(x, other), parts(was, other));
+            }
+            Edge.is("CASH", x.count(3), was.count(3));
+        }
+        Edge.holds("deed " + deed + " can be in some state", did > 0);
     }
 
     private static void courses() {
